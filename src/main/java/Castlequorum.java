@@ -697,14 +697,12 @@ public final class Castlequorum {
         final boolean[] fromHere = new boolean[MOST_ENTRIES];
         final boolean[] committed = new boolean[MOST_ENTRIES];
 
-        /** Needs a row that is not full. */
+        /** Needs a row that is not full; of lord and fromHere the letter's kind sets the one that it reads. */
         int append(char letter, int amount) {
             int entry = size++;
             letters[entry] = letter;
             amounts[entry] = amount;
-            lords[entry] = 0;
             holders[entry] = 0;
-            fromHere[entry] = false;
             committed[entry] = false;
             return entry;
         }

@@ -124,14 +124,17 @@ public final class CastlesTest {
 
     private static void buildMendsTowers() {
         Castlequorum game = new Castlequorum();
-        game.fall(0, 0);
+        for (int tower = 0; tower < 3; tower++) {
+            game.fall(0, tower);
+            game.rise(0, tower);
+        }
         game.fall(0, 1);
-        game.rise(0, 1);
         game.build(0, 3, 100);
-        Check.due("a fallen tower", game.tower(0, 0), 'u');
-        Check.due("a waiting tower", game.tower(0, 1), 'u');
+        Check.due("a waiting tower", game.tower(0, 0), 'u');
+        Check.due("a fallen tower", game.tower(0, 1), 'u');
+        Check.due("another waiting tower", game.tower(0, 2), 'u');
         Check.due("a lease of all", game.lease(0, 0, 0, 1), 1);
-        Check.due("a vote of what waited", game.voteOf(0, 1, 0), 0);
+        Check.due("a vote of what was down", game.voteOf(0, 1, 0), 0);
     }
 
     private static void waiting() {

@@ -12,6 +12,7 @@ public final class FiguresTest {
         soundRuns();
         unsoundGate();
         unsoundGold();
+        unsoundPurse();
         Check.end();
     }
 
@@ -114,14 +115,18 @@ public final class FiguresTest {
     }
 
     private static void unsoundGate() throws ReflectiveOperationException {
-        Castlequorum game = new Castlequorum();
-        game.lease(0, 1, 2, 20);
-        Object gate = ((Object[]) partOf(partOf(game, "second"), "gates"))[2];
-        int[] leaseTills = (int[]) partOf(gate, "leaseTills");
-        leaseTills[3] = 1;
-        Check.due("isSound with a gate that is open for two lords", game.isSound(), false);
-        game.wait(1);
-        Check.due("isSound when one lease has ended", game.isSound(), true);
+        for (int castle = 0; castle < 2; castle++) {
+            for (int gate = 0; gate < 3; gate++) {
+                Castlequorum game = new Castlequorum();
+                game.lease(0, castle, gate, 20);
+                Object door = ((Object[]) partOf(partOf(game, castle == 0 ? "first" : "second"), "gates"))[gate];
+                int[] leaseTills = (int[]) partOf(door, "leaseTills");
+                leaseTills[3] = 1;
+                Check.due("isSound with a gate that is open for two lords", game.isSound(), false);
+                game.wait(1);
+                Check.due("isSound when one lease has ended", game.isSound(), true);
+            }
+        }
     }
 
     private static void unsoundGold() throws ReflectiveOperationException {
@@ -135,5 +140,16 @@ public final class FiguresTest {
         Check.due("isSound with more gold held than there is", game.isSound(), false);
         amounts[0] = -1;
         Check.due("isSound with held gold below 0", game.isSound(), false);
+    }
+
+    private static void unsoundPurse() throws ReflectiveOperationException {
+        for (int lord = 0; lord < 4; lord++) {
+            Castlequorum game = new Castlequorum();
+            game.lease(lord, 0, 0, 20);
+            game.order(lord, 0, 0, false, 10);
+            int[] amounts = (int[]) partOf(partOf(partOf(game, "first"), "row"), "amounts");
+            amounts[0] = -1;
+            Check.due("isSound with a purse below 0", game.isSound(), false);
+        }
     }
 }
