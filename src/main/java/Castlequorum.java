@@ -697,7 +697,7 @@ public final class Castlequorum {
         final boolean[] fromHere = new boolean[MOST_ENTRIES];
         final boolean[] committed = new boolean[MOST_ENTRIES];
 
-        /** Needs a row that is not full; of lord and fromHere the letter's kind sets the one that it reads. */
+        /** Needs a row that is not full. Its lord, or fromHere, is left to the caller: no kind of entry reads both. */
         int append(char letter, int amount) {
             int entry = size++;
             letters[entry] = letter;
