@@ -4,10 +4,20 @@ final class Check {
         void run();
     }
 
+    private static String where = "";
     private static int checks = 0;
     private static int wrong = 0;
 
     private Check() {
+    }
+
+    /** What is told of wrong answers from now on begins with this. */
+    static void at(String place) {
+        where = place.isEmpty() ? "" : place + "\n    ";
+    }
+
+    static int made() {
+        return checks;
     }
 
     static void due(String what, long got, long want) {
@@ -67,6 +77,6 @@ final class Check {
 
     private static void tell(String line) {
         wrong++;
-        System.out.println(line);
+        System.out.println(where + line);
     }
 }

@@ -1,10 +1,8 @@
-import java.lang.reflect.Field;
-
 /** Promises 36 to 40: time, checksum, upShare, meanEntries, isSound. */
 public final class FiguresTest {
     private static final Class<IndexOutOfBoundsException> INDEX = IndexOutOfBoundsException.class;
 
-    public static void main(String[] arguments) throws ReflectiveOperationException {
+    public static void main(String[] arguments) {
         timing();
         summing();
         upShares();
@@ -106,22 +104,12 @@ public final class FiguresTest {
         }
     }
 
-    // No run of calls makes an object unsound, so these reach into it.
-
-    private static Object partOf(Object owner, String name) throws ReflectiveOperationException {
-        Field field = owner.getClass().getDeclaredField(name);
-        field.setAccessible(true);
-        return field.get(owner);
-    }
-
-    private static void unsoundGate() throws ReflectiveOperationException {
+    private static void unsoundGate() {
         for (int castle = 0; castle < 2; castle++) {
             for (int gate = 0; gate < 3; gate++) {
                 Castlequorum game = new Castlequorum();
                 game.lease(0, castle, gate, 20);
-                Object door = ((Object[]) partOf(partOf(game, castle == 0 ? "first" : "second"), "gates"))[gate];
-                int[] leaseTills = (int[]) partOf(door, "leaseTills");
-                leaseTills[3] = 1;
+                Inside.leaseAt(game, castle, gate, 3, 1);
                 Check.due("isSound with a gate that is open for two lords", game.isSound(), false);
                 game.wait(1);
                 Check.due("isSound when one lease has ended", game.isSound(), true);
@@ -129,26 +117,24 @@ public final class FiguresTest {
         }
     }
 
-    private static void unsoundGold() throws ReflectiveOperationException {
+    private static void unsoundGold() {
         Castlequorum game = new Castlequorum();
         game.truce(0, 60);
         game.prepare(0, 0, 0);
-        int[] amounts = (int[]) partOf(partOf(partOf(game, "first"), "row"), "amounts");
-        amounts[0] = 100;
+        Inside.amountAt(game, 0, 0, 100);
         Check.due("isSound with all gold held", game.isSound(), true);
-        amounts[0] = 101;
+        Inside.amountAt(game, 0, 0, 101);
         Check.due("isSound with more gold held than there is", game.isSound(), false);
-        amounts[0] = -1;
+        Inside.amountAt(game, 0, 0, -1);
         Check.due("isSound with held gold below 0", game.isSound(), false);
     }
 
-    private static void unsoundPurse() throws ReflectiveOperationException {
+    private static void unsoundPurse() {
         for (int lord = 0; lord < 4; lord++) {
             Castlequorum game = new Castlequorum();
             game.lease(lord, 0, 0, 20);
             game.order(lord, 0, 0, false, 10);
-            int[] amounts = (int[]) partOf(partOf(partOf(game, "first"), "row"), "amounts");
-            amounts[0] = -1;
+            Inside.amountAt(game, 0, 0, -1);
             Check.due("isSound with a purse below 0", game.isSound(), false);
         }
     }

@@ -5,6 +5,8 @@ import java.util.Map;
 
 /** All that an object (a Castlequorum or a Model) answers to the calls that change nothing, as one text. */
 final class Picture {
+    /** More than there can be of anything that is asked until it is refused, so that a wrong answer ends in a test. */
+    private static final int MOST = 30;
     private static final Map<String, Method> METHODS = new HashMap<>();
 
     private Picture() {
@@ -21,14 +23,21 @@ final class Picture {
         for (int castle = 0; castle < 2; castle++) {
             addCastle(text, game, castle);
         }
-        for (int sight = 0; !ask(game, "read", sight, true).equals("IndexOutOfBoundsException"); sight++) {
+        for (int sight = 0; sight < MOST && !ask(game, "read", sight, true).equals("IndexOutOfBoundsException"); sight++) {
             add(text, game, "read", sight, true);
             add(text, game, "read", sight, false);
         }
-        for (int truce = 0; !ask(game, "truceOf", truce, 0).equals("IndexOutOfBoundsException"); truce++) {
+        for (int truce = 0; truce < MOST && !ask(game, "truceOf", truce, 0).equals("IndexOutOfBoundsException"); truce++) {
             add(text, game, "truceOf", truce, 0);
             add(text, game, "truceOf", truce, 1);
         }
+        return text.toString();
+    }
+
+    /** What an object answers of one castle alone. */
+    static String ofCastle(Object game, int castle) {
+        StringBuilder text = new StringBuilder();
+        addCastle(text, game, castle);
         return text.toString();
     }
 
@@ -54,7 +63,7 @@ final class Picture {
             add(text, game, "amountOf", castle, entry);
             add(text, game, "isCommitted", castle, entry);
         }
-        for (int tower = 0; !ask(game, "tower", castle, tower).equals("IndexOutOfBoundsException"); tower++) {
+        for (int tower = 0; tower < MOST && !ask(game, "tower", castle, tower).equals("IndexOutOfBoundsException"); tower++) {
             addTower(text, game, castle, tower, entries);
         }
     }
