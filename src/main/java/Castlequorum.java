@@ -42,7 +42,7 @@ public final class Castlequorum {
         second.raiseWalls(FIRST_TOWERS, FIRST_GOLD);
         sights = new Sight[MOST_SIGHTS];
         for (int sight = 0; sight < MOST_SIGHTS; sight++) {
-            sights[sight] = new Sight();
+            sights[sight] = new Sight(first);
         }
         truces = new Truce[MOST_TRUCES];
         for (int truce = 0; truce < MOST_TRUCES; truce++) {
@@ -837,6 +837,11 @@ public final class Castlequorum {
         int buildSeen;
         int countSeen;
         int goldSeen;
+
+        /** Of some castle, so that place is never null; what has not looked yet has no number to be asked by. */
+        Sight(Castle castle) {
+            place = castle;
+        }
 
         void look(Castle castle, int ofLord, int now) {
             place = castle;
