@@ -383,6 +383,15 @@ final class EdgesOfTerms {
                 game.cut(0, 0, 0, false);
                 game.lease(0, 0, 0, 11);
                 Check.due("the tick from now is later", game.voteTill(0, 0, 0), 13);
+                Castlequorum apart = Scene.ofTowers(4);
+                Scene.nearOnly(apart, 0, 0, 0b0111);
+                apart.lease(0, 0, 0, 10);
+                Scene.nearOnly(apart, 0, 0, 0b1110);
+                Check.due("the lease is where it was", apart.lease(0, 0, 0, 4), 10);
+                Check.due("a vote of one that had none", apart.voteTill(0, 3, 0), 4);
+                Check.due("a vote of one that had a later one", apart.voteTill(0, 2, 0), 10);
+                apart.lease(0, 0, 0, 12);
+                Check.due("a vote of one that is far now", apart.voteTill(0, 0, 0), 10);
             });
     }
 
@@ -401,6 +410,12 @@ final class EdgesOfTerms {
                 Check.due("where it was", game.lease(lord, 0, 0, 1), 58 + 2 * lord);
                 game.wait(2);
             }
+            Castlequorum left = Scene.leased();
+            left.cut(0, 0, 0, true);
+            left.giveUp(0, 0, 0);
+            left.cut(0, 0, 0, false);
+            Check.due("a later vote, left over, does not move it", left.lease(0, 0, 0, 3), 3);
+            Check.due("that vote", left.voteTill(0, 0, 0), 20);
         });
         Edge.of("The gate is open for a lord before the tick of this lease.", () -> {
             Castlequorum game = new Castlequorum();
@@ -409,6 +424,9 @@ final class EdgesOfTerms {
             game.wait(1);
             Check.refused("its tick", game, Edge.NOBODY, () -> game.openFor(1, 2));
             game.lease(3, 1, 2, 20);
+            Scene.upOnly(game, 1, 0);
+            Check.due("when all towers have fallen", game.openFor(1, 2), 3);
+            Scene.upOnly(game, 1, -1);
             game.wait(19);
             Check.due("the last tick of a lease for 20", game.openFor(1, 2), 3);
             Check.due("an order then", game.order(3, 1, 2, false, 1), 0);

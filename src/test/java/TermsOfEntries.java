@@ -306,6 +306,15 @@ final class TermsOfEntries {
             game.burn(0, 1);
             Check.due("the last that hangs", game.strike(0), 1);
             Check.due("all count", game.counting(0), 3);
+            Castlequorum lost = Scene.ofTowers(3);
+            lost.lease(0, 0, 0, 20);
+            Scene.orderTo(lost, 0, 0b001);
+            Scene.orderTo(lost, 0, 0b011);
+            lost.burn(0, 0);
+            lost.burn(0, 1);
+            Check.due("both hang when they are struck, the one that is committed, too", lost.strike(0), 2);
+            Check.due("its letter", lost.entryOf(0, 1), '-');
+            Check.due("gold", lost.gold(0, false), 100);
             Castlequorum other = Scene.filled(60);
             for (int tower = 0; tower < 3; tower++) {
                 other.burn(0, tower);
